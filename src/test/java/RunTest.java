@@ -12,6 +12,8 @@ final class RunTest {
         keptAndCounted();
         coveredLines();
         placesAtTheEnd();
+        longSums();
+        openNumbers();
         refusals();
         refusedRunLeavesTheLatest();
         Check.end();
@@ -219,6 +221,38 @@ final class RunTest {
         maker.run(1, 3, 4, 5, 2000);
         Check.due("place(0)", maker.place(0), 50);
         Check.due("place(3)", maker.place(3), 0);
+    }
+
+    private static void longSums() {
+        String text = "def aa(){while 1" + Check.times("+1", 280) + ">0{a=a+1}}";
+        LessonMaker maker = Check.withProgram(text);
+        Check.due("a long TEST, again and again", maker.run(0, 0, 0, 0, 2000), 1);
+        dueRan(maker, "long", 0, 2000, 0, 2000, 2, 1);
+        Check.due("place(0)", maker.place(0), 1000);
+        text = "def aa(){while 1" + Check.times("+1", 130) + ">0{while 1" + Check.times("*1", 140) + "<0{a=1}}}";
+        maker = Check.withProgram(text);
+        Check.due("two of them", maker.run(0, 0, 0, 0, 2000), 1);
+        dueRan(maker, "two", 0, 2000, 0, 2000, 2, 1);
+    }
+
+    /** As many numbers as can be are open while calls go eight deep. */
+    private static void openNumbers() {
+        String open = Check.times("1+2*bb(1,2,", 5);
+        String text = "def aa(a,b,c){if 3+a*b<" + open + "1+2*cc(a+1,b,c)" + Check.times(")", 5)
+                + "{return a+c};return 0-1}def bb(a,b,c){return a+b+c}def cc(a,b,c){if a>b{return c};return aa(a,b,c)}";
+        LessonMaker maker = Check.withProgram(text);
+        Check.due("END", maker.run(0, 0, 3, 5, 2000), 0);
+        Check.due("VALUE", maker.ran(0), openAa(0, 3, 5));
+        Check.due("deepest", maker.ran(5), 8);
+        Check.due("END", maker.run(0, 0, 4, 5, 2000), 2);
+    }
+
+    private static int openAa(int a, int b, int c) {
+        int right = 1 + 2 * (a + 1 > b ? c : openAa(a + 1, b, c));
+        for (int i = 0; i < 5; i++) {
+            right = 1 + 2 * (1 + 2 + right);
+        }
+        return 3 + a * b < right ? a + c : -1;
     }
 
     private static void dueTrouble(LessonMaker maker, String call, int got, int trouble) {
