@@ -2,8 +2,12 @@ import java.util.NoSuchElementException;
 
 /** What the tests share: texts put into a LessonMaker, and answers held against those that are due. */
 final class Check {
+    static final int[] FAR = {Integer.MIN_VALUE, -600, -1, 601, 2001, Integer.MAX_VALUE};
+
     private static int wrong = 0;
     private static int looked = 0;
+    private static String sentence = "";
+    private static int lookedAhead = 0;
 
     private Check() {
     }
@@ -17,9 +21,34 @@ final class Check {
         if (got != want) {
             wrong++;
             if (wrong <= 20) {
-                System.out.println(what + " answered " + got + ", due is " + want);
+                System.out.println(sentence + what + " answered " + got + ", due is " + want);
             }
         }
+    }
+
+    /** What is looked at from here on is what this sentence of the document says. */
+    static void sentence(String words) {
+        endSentence();
+        sentence = "[" + words + "] ";
+        lookedAhead = looked;
+    }
+
+    private static void endSentence() {
+        if (!sentence.isEmpty() && looked == lookedAhead) {
+            due("a sentence without a test", 0, 1);
+        }
+    }
+
+    /** A call is refused: it answers NONE, and TROUBLE tells why. */
+    static void dueRefused(String what, LessonMaker maker, int got, int trouble) {
+        due(what, got, LessonMaker.NONE);
+        due("trouble() of " + what, maker.trouble(), trouble);
+    }
+
+    /** A call that may be refused is not. */
+    static void dueTaken(String what, LessonMaker maker, int got, int want) {
+        due(what, got, want);
+        due("trouble() of " + what, maker.trouble(), 0);
     }
 
     static void dueNoSuch(String what, Call call) {
@@ -78,6 +107,7 @@ final class Check {
     }
 
     static void end() {
+        endSentence();
         System.out.println(wrong + " of " + looked + " answers are wrong");
         if (wrong != 0 || looked == 0) {
             System.exit(1);
