@@ -16,6 +16,7 @@ final class EdgesOfChaptersTest {
         orderOfSelf();
         orderOfPairs();
         orderOfTen();
+        orderOfEachProgram();
         orderFirst();
         toldByNumbers();
         shownByFuel();
@@ -150,6 +151,29 @@ final class EdgesOfChaptersTest {
         dueOrder(full, 45, 0, 1, 2, 3, 4, 5, 6, 7, 8, 9);
     }
 
+    private static void orderOfEachProgram() {
+        Check.sentence("in how many pairs a FUNCTION calls one told behind it");
+        // all call all, of ten down to one: what stood ahead is of no matter
+        LessonMaker maker = new LessonMaker();
+        for (int n = 10; n > 0; n -= 3) {
+            int[] all = new int[n];
+            for (int f = 0; f < n; f++) {
+                all[f] = (1 << n) - 1 & ~(1 << f);
+            }
+            Check.program(maker, graph(all).replace("a=1+", "a="));
+            Check.due("order() of " + n, maker.order(), n * (n - 1) / 2);
+            for (int i = 0; i < n; i++) {
+                Check.due("chapter(" + i + ") of " + n, maker.chapter(i), i);
+            }
+        }
+        Check.program(maker, graph(1022, 0, 0, 0, 0, 0, 0, 0, 0, 0));
+        Check.due("order() of one that calls nine", maker.order(), 0);
+        Check.due("chapter(9) of one that calls nine", maker.chapter(9), 0);
+        Check.program(maker, graph(new int[10]));
+        Check.due("order() of ten that call none", maker.order(), 0);
+        Check.due("chapter(9) of ten that call none", maker.chapter(9), 9);
+    }
+
     private static void orderFirst() {
         Check.sentence("of as good orders the first by FUNCTIONS' numbers");
         dueOrder(graph(0, 0, 0), 0, 0, 1, 2);
@@ -274,7 +298,8 @@ final class EdgesOfChaptersTest {
 
     private static void fewestFirst() {
         Check.sentence("of as few the first by numbers");
-        int[][] told = {{1, 1}, {4, 2, 1, 3, 3}, {1, 2, 3}, {1, 6, 3, 4}, {3, 5, 6}, {2, 4, 1, 5, 3, 6}, {0, 3, 4, 5, 2}};
+        int[][] told = {{1, 1}, {4, 2, 1, 3, 3}, {1, 2, 3}, {1, 6, 3, 4}, {3, 5, 6}, {2, 4, 1, 5, 3, 6},
+            {0, 3, 4, 5, 2}};
         int[][] want = {{0}, {0, 3}, {2}, {0, 1}, {0, 1}, {0, 3}, {1, 2}};
         for (int i = 0; i < told.length; i++) {
             LessonMaker maker = Check.withProgram(THREE);
@@ -355,6 +380,19 @@ final class EdgesOfChaptersTest {
                 want[f] = f < changed ? 1 : f == changed ? 2 : 0;
             }
             dueAnew(maker, chain.replace(was, was.replace("a=", "b=")), want);
+        }
+        // by each FUNCTION between the two
+        for (int between = 0; between < 3; between++) {
+            int[] calls = {0, 0, 0};
+            int caller = (between + 1) % 3;
+            int called = (between + 2) % 3;
+            calls[caller] = 1 << between;
+            calls[between] = 1 << called;
+            LessonMaker maker = Check.withProgram(graph(calls));
+            String was = "def " + name(called) + "(){a=1";
+            int[] want = {1, 1, 1};
+            want[called] = 2;
+            dueAnew(maker, graph(calls).replace(was, was + "+1"), want);
         }
         // those that call nothing which is so
         LessonMaker maker = Check.withProgram(graph(2, 0, 0, 4));

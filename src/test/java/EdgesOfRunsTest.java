@@ -128,6 +128,23 @@ final class EdgesOfRunsTest {
         maker = Check.withProgram("def aa(a){return bb(bb(bb(bb(bb(bb(1))))))}def bb(a){return a+1}");
         Check.due("run", maker.run(0, 0, 0, 0, 2000), 0);
         dueRan(maker, "in ( )", 7, 7, 0, 7, 2, 2);
+        // as many numbers as can be wait for each of the eight
+        maker = Check.withProgram("def aa(a,b,c){if a=0{return c};return 1+2*bb(3,4,1+2*bb(3,4,1+2*bb(3,4,1+2*bb(3,4,"
+                + "1+2*bb(3,4,1+2*aa(a-1,b,c+1))))))}def bb(a,b,c){return a+b+c}");
+        Check.due("run", maker.run(0, 7, 0, 5, 2000), 0);
+        Check.due("ran(0)", maker.ran(0), waiting(7, 5));
+        Check.due("ran(5)", maker.ran(5), 8);
+    }
+
+    private static int waiting(int a, int c) {
+        if (a == 0) {
+            return c;
+        }
+        int sum = 1 + 2 * waiting(a - 1, c + 1);
+        for (int i = 0; i < 5; i++) {
+            sum = 1 + 2 * (3 + 4 + sum);
+        }
+        return sum;
     }
 
     private static void saidKept() {
@@ -646,8 +663,8 @@ final class EdgesOfRunsTest {
 
     private static void coveredNone() {
         Check.sentence("Whether the latest run() COVERED a LINE: 1, 0; NONE (no such LINE, nothing was run).");
-        LessonMaker maker = Check.withProgram("def aa(){" + Check.times("a=1;", 31) + "if a=2{" + Check.times("a=1;", 26)
-                + "a=1};return 1}");
+        LessonMaker maker = Check.withProgram("def aa(){" + Check.times("a=1;", 31) + "if a=2{"
+                + Check.times("a=1;", 26) + "a=1};return 1}");
         Check.due("covered(0), nothing was run", maker.covered(0), -1);
         Check.due("covered(60), nothing was run", maker.covered(60), -1);
         maker.run(0, 0, 0, 0, 2000);

@@ -46,6 +46,7 @@ final class EdgesOfTextsTest {
         feedBytes();
         feedFull();
         programBytes();
+        programBytesOften();
         programCounts();
         programForgets();
         programRefused();
@@ -171,7 +172,8 @@ final class EdgesOfTextsTest {
 
     private static void blanks() {
         Check.sentence("blanks, 32, and 10s part TOKENS and mean nothing else");
-        String parted = " \n def \n aa\n( a\n,b ) { if a\n=\nb { say\n1 } else\n{ say(\n2\n)\n*\n3 } ;\nreturn a } \n\n ";
+        String parted = " \n def \n aa\n( a\n,b ) { if a\n=\nb { say\n1 } else\n{ say(\n2\n)\n*\n3 } ;\n"
+                + "return a } \n\n ";
         Check.dueFine(parted, 1);
         LessonMaker maker = Check.withProgram("def aa(a,b){if a=b{say 1}else{say(2)*3};return a}");
         Check.due("the same TOKENS", Check.program(maker, parted), 1);
@@ -534,7 +536,8 @@ final class EdgesOfTextsTest {
     private static void manyLines() {
         Check.sentence("a 61st LINE (at its first TOKEN, if it may stand there, else 1)");
         String sixty = lines(60);
-        String[] may = {"a=1", "h=1", "say 1", "return 1", "if 1=1{a=1}", "while 1=1{a=1}", "a", "say", "if", "while @"};
+        String[] may = {"a=1", "h=1", "say 1", "return 1", "if 1=1{a=1}", "while 1=1{a=1}", "a", "say", "if",
+            "while @"};
         for (String line : may) {
             Check.dueFault(body(sixty + ";" + line), 3, 9 + 240);
             Check.dueFault(body(sixty + "; \n" + line), 3, 9 + 242);
@@ -618,6 +621,13 @@ final class EdgesOfTextsTest {
         Check.dueFault(body("say ((((((("), 3, 19);
         Check.dueFault(body("say 1+2*((((((3-(4)))))))"), 3, 25);
         Check.dueFault(body("say ((((((1("), 1, 20);
+        // in each SUM of a LINE
+        String[] heads = {"a=", "say", "return", "if ", "if 1=", "while ", "while 1>"};
+        String[] tails = {"", "", "", "<1{a=1}", "{a=1}", "<1{a=1}", "{a=1}"};
+        for (int i = 0; i < heads.length; i++) {
+            Check.dueFine(body(heads[i] + "((((((1))))))" + tails[i]), 1);
+            Check.dueFault(body(heads[i] + "(((((((1)))))))" + tails[i]), 3, 9 + heads[i].length() + 6);
+        }
         // a call's are such ones too
         Check.dueFine("def aa(a){say aa(aa(aa(aa(aa(aa(1))))))}", 1);
         Check.dueFault("def aa(a){say aa(aa(aa(aa(aa(aa(aa(1)))))))}", 3, 34);
@@ -625,7 +635,8 @@ final class EdgesOfTextsTest {
         Check.dueFault(body("say ((((((aa()))))))"), 3, 21);
         Check.dueFault(body("say ((((((aa))))))"), 1, 21);
         // those of other SUMS, and of a FUNCTION's PLACES, are not others around it
-        Check.dueFine("def aa(a){say((((((1))))))*((((((1))))))-aa((((((1))))));if((((((1))))))=((((((1)))))){a=((((((1))))))}}", 1);
+        String six = "((((((1))))))";
+        Check.dueFine("def aa(a){say" + six + "*" + six + "-aa((((((1))))));if" + six + "=" + six + "{a=" + six + "}}", 1);
     }
 
     private static void miscalled() {
@@ -767,6 +778,25 @@ final class EdgesOfTextsTest {
         Check.dueRefused("program(0) with a TAPE", maker, maker.program(0), 4);
         Check.due("count(3)", maker.count(3), 0);
         Check.due("count(0)", maker.count(0), 2);
+        Check.feed(maker, "   \n" + text);
+        Check.dueRefused("program(0) with a TAPE of blanks first", maker, maker.program(0), 4);
+        Check.due("where(): the end of none", maker.where(), 0);
+        Check.feed(maker, "   \n" + text);
+        Check.dueRefused("program(3) of blanks", maker, maker.program(3), 4);
+        Check.due("where(): their end", maker.where(), 3);
+    }
+
+    private static void programBytesOften() {
+        Check.sentence("The first n bytes of THE TAPE (it is empty then) are the PROGRAM");
+        LessonMaker maker = new LessonMaker();
+        for (int turn = 0; turn < 16; turn++) {
+            String head = "def f" + (char) ('a' + turn) + "(){return " + (turn + 10);
+            String text = head + Check.times("+1", (599 - head.length()) / 2) + "}";
+            Check.due("program() " + turn + " of " + text.length(), Check.program(maker, text), 1);
+        }
+        Check.due("run() of the last one", maker.run(0, 0, 0, 0, 1), 0);
+        Check.due("ran(0)", maker.ran(0), 25 + 290);
+        Check.due("name(0, 1)", maker.name(0, 1), 'p');
     }
 
     private static void programCounts() {
@@ -775,9 +805,13 @@ final class EdgesOfTextsTest {
         for (int n = 1; n <= 10; n++) {
             Check.dueTaken("program() of " + n, maker, Check.program(maker, functions(n)), n);
             Check.due("count(0)", maker.count(0), n);
+            Check.due("count(1)", maker.count(1), n);
         }
-        Check.dueTaken("program() of 1", maker, Check.program(maker, functions(1)), 1);
-        Check.due("count(0)", maker.count(0), 1);
+        for (int n = 9; n > 0; n--) {
+            Check.dueTaken("program() of " + n, maker, Check.program(maker, functions(n)), n);
+            Check.due("count(0)", maker.count(0), n);
+            Check.due("count(1)", maker.count(1), n);
+        }
     }
 
     private static void programForgets() {
@@ -932,9 +966,14 @@ final class EdgesOfTextsTest {
             Check.due("function(" + far + ", 0)", maker.function(far, 0), -1);
             Check.due("function(0, " + far + ")", maker.function(0, far), -1);
         }
-        Check.program(maker, "def aa(a){a=1}");
-        Check.due("function(1, 0) of fewer FUNCTIONS", maker.function(1, 0), -1);
-        Check.due("function(0, 3) of another PROGRAM", maker.function(0, 3), 0);
+        for (int turn = 0; turn < 6; turn++) {
+            Check.program(maker, "def aa(a){a=1}");
+            Check.due("function(1, 0) of fewer FUNCTIONS", maker.function(1, 0), -1);
+            int[] want = {1, 0, 1, 0};
+            for (int what = 0; what < 4; what++) {
+                Check.due("function(0, " + what + ") of another PROGRAM", maker.function(0, what), want[what]);
+            }
+        }
     }
 
     private static void nameBytes() {
