@@ -350,7 +350,7 @@ public final class LessonMaker {
 
         private final byte[] text;
         private int length;
-        private final int[] kinds;
+        final int[] kinds;
         private final int[] places;
         private final int[] widths;
         int size;
@@ -381,10 +381,6 @@ public final class LessonMaker {
             add(END, length, 0);
         }
 
-        int kindAt(int t) {
-            return has(t) ? kinds[t] : END;
-        }
-
         int placeOf(int t) {
             return has(t) ? places[t] : length;
         }
@@ -395,13 +391,13 @@ public final class LessonMaker {
 
         /** Which PLACE a TOKEN is, from 0 for a. */
         int letterOf(int t) {
-            return Math.max(0, byteOf(t, 0) - 'a');
+            return has(t) ? Math.max(0, textAt(places[t]) - 'a') : 0;
         }
 
         int valueOf(int t) {
             int value = 0;
             for (int i = 0; has(t) && i < widths[t]; i++) {
-                value = value * 10 + byteOf(t, i) - '0';
+                value = value * 10 + textAt(places[t] + i) - '0';
             }
             return value;
         }
@@ -729,6 +725,7 @@ public final class LessonMaker {
 
         int faultPlace;
         private int foundFault;
+        private int faultToken;
         private Program program;
         private Tokens tokens;
         private Code code;
@@ -757,18 +754,16 @@ public final class LessonMaker {
             next = 0;
             callCount = 0;
             foundFault = NO_FAULT;
-            readFunctions();
-            if (foundFault == NO_FAULT) {
-                joinCalls();
-            }
-            return foundFault;
-        }
-
-        private void readFunctions() {
+            faultToken = 0;
             readFunction();
             for (int more = 0; more < Program.MOST_FUNCTIONS && kind() != Tokens.END; more++) {
                 readFunction();
             }
+            if (foundFault == NO_FAULT) {
+                joinCalls();
+            }
+            faultPlace = tokens.placeOf(faultToken);
+            return foundFault;
         }
 
         private void readFunction() {
@@ -1063,7 +1058,8 @@ public final class LessonMaker {
         }
 
         private int kind() {
-            return tokens.kindAt(next);
+            boolean isThere = next >= 0 && next < tokens.size && next < tokens.kinds.length;
+            return isThere ? tokens.kinds[next] : Tokens.END;
         }
 
         private void take(int sign) {
@@ -1078,7 +1074,7 @@ public final class LessonMaker {
         private void fail(int fault) {
             if (foundFault == NO_FAULT) {
                 foundFault = fault;
-                faultPlace = tokens.placeOf(next);
+                faultToken = next;
             }
             next = tokens.size - 1;
         }

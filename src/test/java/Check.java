@@ -122,7 +122,7 @@ final class Check {
         return all.toString();
     }
 
-    private static int four(String text, int i) {
+    static int four(String text, int i) {
         int number = 0;
         for (int j = i; j < i + 4; j++) {
             number = number << 8 | (j < text.length() ? text.charAt(j) & 255 : 32);

@@ -71,7 +71,7 @@ final class GrammarTest {
         }
     }
 
-    private static String nearly(Random random, String text) {
+    static String nearly(Random random, String text) {
         StringBuilder changed = new StringBuilder(text);
         int fits = random.nextInt(4);
         for (int i = 0; i < fits; i++) {

@@ -5,6 +5,7 @@ import java.lang.reflect.Method;
 import java.lang.reflect.Modifier;
 import java.nio.file.Files;
 import java.nio.file.Path;
+import java.util.NoSuchElementException;
 import java.util.TreeSet;
 import java.util.regex.Matcher;
 import java.util.regex.Pattern;
@@ -26,6 +27,7 @@ final class LanguageTest {
 
     public static void main(String[] args) throws IOException {
         face();
+        faceInTheDocument();
         classes();
         source();
         Check.end();
@@ -45,6 +47,9 @@ final class LanguageTest {
                 }
                 got.add(call.append(')').toString());
                 due(method + " answers an int", method.getReturnType() == int.class);
+                boolean throwsIt = "name said trace".contains(method.getName());
+                due(method + " says what it throws", method.getExceptionTypes().length == (throwsIt ? 1 : 0)
+                        && (!throwsIt || method.getExceptionTypes()[0] == NoSuchElementException.class));
             } else {
                 due(method + " is private", Modifier.isPrivate(method.getModifiers()));
             }
@@ -58,6 +63,28 @@ final class LanguageTest {
             boolean isNone = field.getName().equals("NONE") && Modifier.isPublic(field.getModifiers());
             due(field + " is private", isNone || Modifier.isPrivate(field.getModifiers()));
         }
+    }
+
+    /** Each line of the document's face stands in the source word for word, in the document's order. */
+    private static void faceInTheDocument() throws IOException {
+        String document = Files.readString(Path.of("../shared/DOC.md"));
+        String source = Files.readString(Path.of("src/main/java/LessonMaker.java"));
+        int block = document.indexOf("```java");
+        String[] lines = document.substring(block, document.indexOf("```", block + 3)).split("\n");
+        int at = 0;
+        int found = 0;
+        for (String line : lines) {
+            String words = line.strip();
+            if (!words.endsWith(";") && !words.startsWith("public")) {
+                continue;
+            }
+            String written = words.endsWith(");") || words.endsWith("Exception;") && words.contains("(")
+                    ? words.substring(0, words.length() - 1) + " {" : words;
+            due("the source has behind the others: " + written, source.indexOf(written, at) >= 0);
+            at = Math.max(at, source.indexOf(written, at));
+            found++;
+        }
+        due("the document's face is found", found == FACE.length + 4);
     }
 
     private static void classes() {
