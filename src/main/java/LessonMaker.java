@@ -25,9 +25,8 @@ public final class LessonMaker {
     private final byte[] tape;
     private int fed;
 
-    // Three programs take turns, so that a text with a FAULT is read beside what stays.
+    // Two programs take turns, so that a text with a FAULT is read beside what stays.
     private Program now;
-    private Program before;
     private Program spare;
     private final Reader reader;
 
@@ -46,7 +45,6 @@ public final class LessonMaker {
     public LessonMaker() {
         tape = new byte[TAPE_BYTES];
         now = new Program();
-        before = new Program();
         spare = new Program();
         reader = new Reader();
         latest = new Machine();
@@ -320,10 +318,9 @@ public final class LessonMaker {
     }
 
     private void turnToSpare() {
-        Program oldest = before;
-        before = now;
+        Program before = now;
         now = spare;
-        spare = oldest;
+        spare = before;
         hasRun = false;
         told.forget();
         chapters.forget();

@@ -832,6 +832,10 @@ final class EdgesOfRunsTest {
         dueUnlike(text, 999, 1);
         // only by rule 2 does it come back
         dueUnlike(text, 1000, 1);
+        // by the true ones 2 a + 2 STEPS: with just 2,000 of them it comes back, by rule 2 with 1
+        String returns = "def aa(a){while b<a{b=b+1};return b}";
+        dueUnlike(returns, 999, 2);
+        dueUnlike(returns, 1000, 1);
         LessonMaker maker = Check.withProgram(text);
         maker.run(0, 3, 0, 0, 1);
         Check.due("unlike()", maker.unlike(0, 998, 0, 0), 0);
